@@ -528,7 +528,6 @@ public final class CradlePairs {
         static final int WORD = 1;
         static final int PAIR = 2;
         static final int FIRST_LAW = 3;
-        static final int LAST_LAW = 6;
         static final int TILT = 7;
         static final int SEED = 8;
         static final int IF = 9;
