@@ -423,8 +423,6 @@ public final class CradlePairs {
             held[i] = false;
         }
         Arrays.fill(calms, NONE);
-        // The two texts take turns, so the same object may tell other things now.
-        game.lift();
         game.lay(text, going.left, going.right);
     }
 
@@ -1190,10 +1188,7 @@ public final class CradlePairs {
         final int[] can = new int[STANDINGS];
         final int[] nexts = new int[STANDINGS * MOVES];
 
-        void lift() {
-            text = null;
-        }
-
+        /** A text that has just been read is another object than the one ahead, so it counts as another text. */
         void lay(Text text, int left, int right) {
             if (this.text == text && this.left == left && this.right == right) {
                 return;
@@ -1211,9 +1206,7 @@ public final class CradlePairs {
             }
             can[standing] = 0;
             int row = standing * MOVES;
-            for (int move = 0; move < MOVES; move++) {
-                nexts[row + move] = NONE;
-            }
+            nexts[row + PASSING] = NONE;
             if (!hasPair() || isAwake(standing)) {
                 return;
             }

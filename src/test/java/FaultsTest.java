@@ -39,6 +39,13 @@ public final class FaultsTest {
         Due.due("read", x.read(), 0);
         Due.due("tilt read", x.count(2), 3);
         Due.due("tape behind read", x.count(8), 0);
+        // what has gone from the tape is not read: no fifth digit, no ninth letter
+        Due.tape(x, "tilt 12345");
+        x.back(1);
+        Due.due("four digits", x.read() * 100 + x.place(), 109);
+        Due.tape(x, "speaker abcdefghi");
+        x.back(1);
+        Due.due("eight letters", x.read() * 100 + x.place(), 116);
     }
 
     private static void syntax() {
@@ -159,6 +166,7 @@ public final class FaultsTest {
         fault("word a 1;word a 2;", 3, 14);
         fault("speaker a 1;speaker ab 2;", 0, -1);
         fault("speaker abcdefgh 1;speaker abcdefg 2;word abcdefga 1;", 0, -1);
+        fault("speaker ab 1;speaker ba 1;word aab 1;word c 1;word abb 1;pair ba ab;", 0, -1);
         fault("speaker a 1;speaker b 1;pair a b;", 0, -1);
         fault("speaker a 1;pair a a;", 3, 19);
         fault("speaker a 1;pair a b;", 4, 19);

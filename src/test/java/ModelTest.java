@@ -122,7 +122,7 @@ public final class ModelTest {
     }
 
     private void call(Both both) {
-        int which = r.nextInt(4) == 0 ? 10 + r.nextInt(23) : r.nextInt(6) == 0 ? r.nextInt(10) : r.nextInt(2);
+        int which = r.nextInt(3) == 0 ? 10 + r.nextInt(23) : r.nextInt(2) == 0 ? r.nextInt(10) : r.nextInt(2);
         int[] most = switch (which) {
             case 0, 21 -> new int[] {6, 0, 0};
             case 2, 22 -> new int[] {4, 4, 0};

@@ -317,6 +317,7 @@ public final class PromisesTest {
         due("15: soonest", early.soon(), 7);
         due("16: soonest", early.best(), 1);
         due("25: later", early.scale(0), 1);
+        due("25: first of all", Due.told(CALM + "bars=which;").scale(1), -2);
         CradlePairs nobody = Due.told("speaker a 1;word x 9;");
         due("14: nobody", nobody.who(), 0);
         due("15: nobody", nobody.soon(), -2);
@@ -566,6 +567,11 @@ public final class PromisesTest {
         due("34: l 6", x.listen(0, 6, 14), -1);
         due("34: v -1", x.listen(0, 1, -1), -1);
         due("34: v 21", x.listen(0, 1, 21), -1);
+        // LEFT comes to 11, 12, 13 or to 12, 14, 16, and RIGHT changes nothing
+        CradlePairs late = Due.told("speaker a 1;speaker b 1;word x 1;word y 2;pair a b;pushes=if side<1 then force else 0;");
+        due("34: the fifth", late.listen(0, 5, 15), 5);
+        due("34: the third", late.listen(0, 5, 13), 3);
+        due("34: not the fifth yet", late.listen(0, 4, 15), 1);
         due("34: nobody", new CradlePairs().listen(0, 1, 1), -2);
     }
 
@@ -611,6 +617,39 @@ public final class PromisesTest {
         x.read();
         due("36: a text empties them", x.count(11), 0);
         due("36: none", x.restore(0), false);
+    }
+
+    /** What is reckoned is of the pair that is there, whichever way it came. */
+    private static void otherPairs() {
+        String text = "speaker a 1;speaker b 2;speaker c 9;word x 1;word y 1;pair a b;"
+            + "pushes=if tongue<3 then 1 else 9;bars=if tongue<3 then 0 else which;";
+        CradlePairs x = Due.told(text);
+        due("10: WHO ahead", x.who(), 0);
+        x.hold(0);
+        x.hire(0, 2);
+        due("10: WHO behind", x.who(), 1);
+        x.hold(1);
+        due("36: to a, b", x.restore(0), true);
+        due("36: WHO", x.who(), 0);
+        due("36: reach", x.reach(), 5);
+        due("36: to a, c", x.restore(1), true);
+        due("36: WHO there", x.who(), 1);
+        x.say(1);
+        due("36: barred", x.count(13), 1);
+        due("36: said", x.say(0), 2);
+        x.hire(2, 1);
+        due("13: WHO ahead", x.who(), 1);
+        x.undo();
+        due("13: WHO", x.who(), 2);
+        due("26: others", x.calm(2, 1), 1);
+        due("26: WHO stays", x.who(), 2);
+        x.undo();
+        due("13: scale", x.scale(0), 2);
+        Due.tape(x, text.replace("tongue<3", "tongue<99"));
+        x.read();
+        x.hire(0, 2);
+        due("4: WHO by other laws", x.who(), 0);
+        due("4: calm by other laws", x.calm(2, 1), 0);
     }
 
     private static void count() {
@@ -667,6 +706,7 @@ public final class PromisesTest {
         told();
         listen();
         slots();
+        otherPairs();
         count();
         anew();
         Due.end("PromisesTest");
