@@ -416,6 +416,10 @@ public final class PromisesTest {
         CradlePairs up = Due.told("speaker a 1;speaker b 1;word x 1;pair a b;bars=side;");
         due("17: nine steps up", up.together(), 18);
         due("15: nine steps up", up.soon(), 19);
+        CradlePairs both = Due.told("speaker a 1;speaker b 1;word x 1;word y 2;pair a b;bars=side;");
+        due("17: by ones, though by twos it is sooner", both.together(), 18);
+        due("15: by twos", both.soon(), 9);
+        due("16: by twos", both.best(), 1);
         CradlePairs nobody = new CradlePairs();
         due("17: nobody", nobody.together(), 0);
         due("18: nobody 0", nobody.even(0), 0);
@@ -682,6 +686,11 @@ public final class PromisesTest {
         due("4: pushes as untold", x.say(0), 13);
         due("4: bars as untold", x.word(0, 3), 0);
         due("4: calm anew", x.calm(0, 1), 1);
+        for (int i = 0; i < 9; i++) {
+            Due.tape(x, "speaker a 1;speaker b 1;word w 3;pair a b;pushes=" + "0+".repeat(150) + i + ";");
+            x.read();
+            due("4: long laws again and again", x.word(0, 2), i);
+        }
         due("4: empty", x.read(), 0);
         due("4: nobody", x.count(0) + x.count(1), 0);
     }
