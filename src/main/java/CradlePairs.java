@@ -423,6 +423,7 @@ public final class CradlePairs {
             held[i] = false;
         }
         Arrays.fill(calms, NONE);
+        game.lift();
         game.lay(text, going.left, going.right);
     }
 
@@ -1188,9 +1189,13 @@ public final class CradlePairs {
         final int[] can = new int[STANDINGS];
         final int[] nexts = new int[STANDINGS * MOVES];
 
-        /** A text that has just been read is another object than the one ahead, so it counts as another text. */
+        /** With another text even the same pair must be laid anew. */
+        void lift() {
+            text = null;
+        }
+
         void lay(Text text, int left, int right) {
-            if (this.text == text && this.left == left && this.right == right) {
+            if (this.text != null && this.left == left && this.right == right) {
                 return;
             }
             this.text = text;
