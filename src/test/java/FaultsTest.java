@@ -1,15 +1,7 @@
 /** Promises 2 to 5: the tape, and each fault of a text with its place. */
 public final class FaultsTest {
     private static void fault(String text, int number, int place) {
-        CradlePairs x = Due.told("speaker old 7;tilt 4;seed 12;");
-        Due.tape(x, text);
-        String shown = text.length() > 60 ? text.substring(0, 60) + ".." : text;
-        Due.due("read of " + shown, x.read(), number);
-        Due.due("place in " + shown, x.place(), place);
-        Due.due("the tape behind " + shown, x.count(8), 0);
-        if (number != 0) {
-            Due.due("kept behind " + shown, x.speaker(0, 0) * 100 + x.count(2), 704);
-        }
+        Due.fault(text, number, place);
     }
 
     private static String times(int n, String s) {

@@ -143,18 +143,26 @@ public final class ModelTest {
         both.call(which, number(most[0]), number(most[1]), number(most[2]), r.nextBoolean());
     }
 
+    /** Nothing is due of an object beyond so many calls. */
+    private static final int CALLS_MOST = 512;
+
     private int run(int seed) {
         Both both = new Both();
-        both.look();
         for (int part = 0; part < 6 && both.wrong == 0; part++) {
             int kind = r.nextInt(10);
             String text = kind < 7 ? text() : kind < 9 ? spoiled(text()) : pieces();
+            int calls = 3 + text.length() / 20 + Both.GLANCE + 60 + Both.LOOK;
+            if (both.calls + calls > CALLS_MOST) {
+                break;
+            }
             both.text(text.length() > 2000 ? text.substring(0, 2000) : text);
-            both.look();
+            both.glance();
             for (int i = 0; i < 60 && both.wrong == 0; i++) {
                 call(both);
             }
-            both.look();
+            if (part % 2 == 0) {
+                both.look();
+            }
         }
         if (both.wrong > 0) {
             System.out.println("seed " + seed + ":\n" + both.log);
@@ -167,6 +175,9 @@ public final class ModelTest {
         Both both = new Both();
         for (int i = 0; i < 30 && both.wrong == 0; i++) {
             String text = r.nextInt(4) == 0 ? pieces() : spoiled(text());
+            if (both.calls + 4 + text.length() / 20 > CALLS_MOST) {
+                break;
+            }
             both.text(text.length() > 2000 ? text.substring(0, 2000) : text);
         }
         if (both.wrong > 0) {
@@ -177,7 +188,7 @@ public final class ModelTest {
 
     public static void main(String[] args) {
         int from = args.length > 0 ? Integer.parseInt(args[0]) : 0;
-        int to = args.length > 1 ? Integer.parseInt(args[1]) : 150;
+        int to = args.length > 1 ? Integer.parseInt(args[1]) : 400;
         int wrong = 0;
         for (int seed = from; seed < to && wrong == 0; seed++) {
             wrong += new ModelTest(seed).run(seed);

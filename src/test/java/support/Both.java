@@ -98,7 +98,17 @@ final class Both {
         }
     }
 
-    /** All that can be seen of how it stands. */
+    static final int GLANCE = 14;
+    static final int LOOK = 16 + 8 * 6 * 2;
+
+    /** How it stands, in few calls. */
+    void glance() {
+        for (int what = 0; what < GLANCE; what++) {
+            call(31, what, 0, 0, true);
+        }
+    }
+
+    /** All that can be seen of how it stands, and what can not. */
     void look() {
         for (int what = -1; what <= 14; what++) {
             call(31, what, 0, 0, true);
