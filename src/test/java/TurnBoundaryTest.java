@@ -292,6 +292,28 @@ public final class TurnBoundaryTest {
         due("6 of RIGHT", x.word(0, 3), 1);
     }
 
+    /** "force; tongue; slope": from the least to the most that there can be, awake, too. */
+    static void p07_forceTongueSlope() {
+        for (int n = 0; n <= 9; n++) {
+            CradlePairs x = Due.told("speaker a " + n + ";speaker b " + (9 - n) + ";word n " + n + ";pair a b;pushes=force;bars=tongue-8;");
+            due("force", x.word(0, 2), n);
+            due("tongue of 9 alone", x.word(0, 3), n == 9 ? 1 : 0);
+            CradlePairs y = Due.told("speaker a " + n + ";speaker b " + (9 - n) + ";word n 1;pair a b;bars=other-8;");
+            due("other of 9 alone", y.word(0, 3), n == 0 ? 1 : 0);
+        }
+        for (int tilt = 1; tilt <= 19; tilt++) {
+            CradlePairs x = two("word n 1;tilt " + tilt + ";pushes=if slope<" + tilt + " then 1 else if " + tilt + "<slope then 2 else 3;");
+            due("slope " + tilt, x.word(0, 2), 3);
+        }
+        CradlePairs left = two("word n 9;word o 9;tilt 19;bars=slope-19;");
+        left.say(0);
+        due("slope 20", left.word(1, 3), 1);
+        CradlePairs right = two("word n 9;word o 9;tilt 1;pushes=if slope<1 then 4 else side*9;");
+        right.say(0);
+        right.say(1);
+        due("slope 0", right.word(0, 2), 4);
+    }
+
     /** "last: 0 none, else one more than the LAST WORD's number" */
     static void p07_last() {
         CradlePairs x = two(SIX + "pushes=last;");
@@ -954,31 +976,60 @@ public final class TurnBoundaryTest {
 
     /** "The last thing done (say, pass, hire, set, minutes) is undone": each of these. */
     static void p13_eachThing() {
-        CradlePairs x = Due.told("speaker a 1;speaker b 2;speaker c 3;word n 1;pair a b;tilt 12;rests=1;seed 3;");
-        String[] seen = new String[6];
-        seen[0] = Seen.of(x);
-        x.say(0);
-        seen[1] = Seen.of(x);
-        x.pass();
-        seen[2] = Seen.of(x);
-        x.minutes(2);
-        seen[3] = Seen.of(x);
-        x.hire(2, 1);
-        CradlePairs y = Due.told("speaker a 1;speaker b 2;speaker c 3;word n 1;pair a b;tilt 12;rests=1;seed 3;");
-        y.say(0);
-        y.pass();
-        y.minutes(2);
-        y.hire(2, 1);
-        y.say(0);
-        String ahead = Seen.of(y);
-        y.set();
-        due("set", y.undo(), true);
-        Due.due("set undone", Seen.of(y), ahead);
-        for (int i = 3; i >= 0; i--) {
+        Seen.nothingHappens(Seen::busy, x -> {
+            due("say", x.say(1), 7);
             due("undo", x.undo(), true);
-            Due.due("as ahead of thing " + i, Seen.of(x), seen[i]);
+        });
+        Seen.nothingHappens(() -> two("tilt 12;rests=1;"), x -> {
+            due("pass", x.pass(), 11);
+            due("undo", x.undo(), true);
+        });
+        Seen.nothingHappens(Seen::busy, x -> {
+            due("hire", x.hire(0, 1), 26);
+            due("undo", x.undo(), true);
+        });
+        Seen.nothingHappens(Seen::busy, x -> {
+            due("set", x.set(), true);
+            due("undo", x.undo(), true);
+        });
+        Seen.nothingHappens(Seen::busy, x -> {
+            due("minutes", x.minutes(200), 203);
+            due("undo", x.undo(), true);
+        });
+    }
+
+    /** "The last thing done .. is undone": one after the other, the latest first. */
+    static void p13_theLatestFirst() {
+        CradlePairs x = Due.told("speaker a 1;speaker b 2;speaker c 3;word n 1;pair a b;tilt 12;rests=1;seed 3;");
+        int[][] seen = new int[6][];
+        seen[0] = counts(x);
+        x.say(0);
+        seen[1] = counts(x);
+        x.pass();
+        seen[2] = counts(x);
+        x.minutes(3);
+        seen[3] = counts(x);
+        x.hire(2, 1);
+        seen[4] = counts(x);
+        x.say(0);
+        seen[5] = counts(x);
+        x.set();
+        for (int i = 5; i >= 0; i--) {
+            due("undo", x.undo(), true);
+            int[] now = counts(x);
+            for (int what = 0; what < now.length; what++) {
+                due("count " + what + " ahead of thing " + i, now[what], seen[i][what]);
+            }
         }
         due("none left", x.undo(), false);
+    }
+
+    private static int[] counts(CradlePairs x) {
+        int[] counts = new int[14];
+        for (int what = 0; what < counts.length; what++) {
+            counts[what] = x.count(what);
+        }
+        return counts;
     }
 
     /** "The last thing done .. is undone": of each of five SPEAKERS. */
