@@ -575,8 +575,9 @@ public final class CradlePairs {
             int at = afterBlanks(0);
             for (int i = 0; i <= TOKENS_MOST && at < length; i++) {
                 int end = endOf(at);
-                put(kindOf(at, end), at, valueOf(at, end));
-                if (kinds[size - 1] == NO_TOKEN) {
+                int kind = kindOf(at, end);
+                put(kind, at, valueOf(at, end));
+                if (kind == NO_TOKEN) {
                     return;
                 }
                 at = afterBlanks(end);
@@ -1329,7 +1330,7 @@ public final class CradlePairs {
                 game.open(standing);
                 for (int move = 0; move < MOVES; move++) {
                     int then = game.after(standing, move, without);
-                    if (then != NONE && depths[then] == NOT_COME_TO) {
+                    if (then != NONE && depths[then] == NOT_COME_TO && size < STANDINGS) {
                         depths[then] = depths[standing] + 1;
                         list[size] = then;
                         size++;
